@@ -949,9 +949,10 @@ public final class SmokeWord {
             if (op == NONE) {
                 return tape.refuse(FAULT_STANDS);
             }
-            if (!countPart()) {
-                return false;
+            if (parts >= MOST_PARTS) {
+                return tape.refuse(FAULT_PARTS);
             }
+            parts++;
             tape.pass();
             if (!readSum()) {
                 return false;
@@ -1036,18 +1037,11 @@ public final class SmokeWord {
             } else {
                 return tape.refuse(FAULT_STANDS);
             }
-            if (!countPart()) {
-                return false;
-            }
-            tape.pass();
-            return true;
-        }
-
-        private boolean countPart() {
             if (parts >= MOST_PARTS) {
                 return tape.refuse(FAULT_PARTS);
             }
             parts++;
+            tape.pass();
             return true;
         }
 
