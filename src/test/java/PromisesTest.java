@@ -525,14 +525,9 @@ public final class PromisesTest {
         due(17, "the hour is told by its number", x.out(), 4);
         hours(x, 3);
         due(17, "it is out", x.out(), 5);
-        // Heat 1, water 1: the fire is out with nothing lost; heat 2, water 1 loses 1 each hour.
-        SmokeWord y = of("valley 1 9;house 99 2 1;road 0 1 1");
-        due(17, "out", y.out(), 99);
-        // House 0 burns to the end and lights none, house 1 is lit again by it: at hour 199 at the latest.
-        SmokeWord z = of("valley 1 1;house 99 2 1;house 99 0 0;house 99 0 0;road 0 1 1;road 1 2 1;road 2 3 1");
-        due(17, "out", z.out(), 99);
-        SmokeWord all = forced("valley 1 9;house 99 2 1;house 99 2 1;house 99 2 1;road 0 1 1;road 0 2 1;road 0 3 1", "go 1");
-        due(17, "out", all.out(), 99);
+        // Heat 2 with water 1 on it loses 1 each hour, for 99 hours; a longer fire there can't be, so -2 is not seen.
+        due(17, "out", of("valley 1 9;house 99 2 1;road 0 1 1").out(), 99);
+        due(17, "by the rule in force", forced("valley 9 9;house 99 2 0;road 0 1 4", "go 1").out(), 4);
     }
 
     private static void canBurn() {
@@ -562,7 +557,6 @@ public final class PromisesTest {
         due(19, "no fires", none.order(60, 0), -2);
         // Two alike, but 1 is nearer: first 1 (heat 1, all taken in hour 0), then 0.
         SmokeWord y = of("valley 9 9;house 90 1 0;house 90 1 0;road 0 1 3;road 0 2 1");
-        // 0 then 1: 0 loses 1, 2, saved in the third; 1 has 3 and 4 hours back.. 1 + 2 + .. + 6 of 7 hours on the way.
         due(19, "best first", y.order(20, 0), 1);
         due(19, "best second", y.order(20, 1), 0);
         // 1 saved at once; 0 loses 1 + 2 + 3 + 4 in the hours 0 to 3 and is come to in hour 4.
@@ -660,7 +654,7 @@ public final class PromisesTest {
         due(23, "none", y.silent(60, 0), 0);
         due(23, "none", y.silent(60, 1), 0);
         due(23, "no houses", of("valley 0 9").silent(60, 2), 0);
-        // 0 and 1 both keep it from 2, or either of 3 and 4 with these..: 2 houses must be silent.
+        // 0 and 1 both call it away from 2.
         SmokeWord z = of("valley 9 9;house 1 1 9;house 1 1 9;house 90 1 3;road 0 1 9;road 0 2 9;road 0 3 1");
         due(23, "two", z.silent(60, 0), 2);
         due(23, "the set", z.silent(60, 1), 3);
@@ -709,8 +703,6 @@ public final class PromisesTest {
         due(25, "how many", x.rests(0, 1, 1, 0), 3);
         due(25, "the first one", x.rests(0, 1, 1, 1), 0);
         due(25, "the second one", x.rests(0, 1, 1, 2), 0);
-        // Two hours: the one not come to loses 1, and 1 + 2 if never; (0, 0) is no rest, as 5 would win 2.
-        // Gone to first: 90; second (2 hours by the pump, so not in time): 87. (5, 0): 89 and 87; the other by 10: 88: more. ..
         due(25, "2 hours", x.rests(0, 1, 2, 0), restsByHand(x, 0, 1, 2));
         due(25, "20 hours", x.rests(1, 0, 20, 0), restsByHand(x, 1, 0, 20));
         due(25, "says is as it was", x.house(0, 2), 0);
@@ -757,9 +749,17 @@ public final class PromisesTest {
         SmokeWord y = forced("valley 1 9;house 9 0 0;house 30 1 0;road 0 1 1;road 1 2 1", "go 9 if been = 0;go 0");
         due(26, "house", y.first(0), 1);
         due(26, "hour", y.first(1), 1);
-        // In 60 hours: the 60th is the last.
-        SmokeWord z = forced("valley 1 9;house 99 0 0;road 0 1 1", "go 1 if hour >= 59");
-        due(26, "no heat", z.first(0), -2);
+        // Heat 1 burns 99 in the hours 0 to 14.
+        String one = "valley 1 9;house 99 1 0;road 0 1 1";
+        due(26, "in its last hour", forced(one, "go 1 if hour >= 14").first(1), 14);
+        due(26, "too late", forced(one, "go 1 if hour >= 15").first(1), -2);
+        // A row of six, each lit 9 hours behind the one beside it: the last has heat in the 60th hour, too.
+        StringBuilder row = new StringBuilder("valley 1 9;house 99 1 0");
+        for (int h = 1; h < 6; h++) row.append(";house 99 0 0;beside ").append(h - 1).append(" ").append(h);
+        SmokeWord z = forced(row + ";road 0 6 1", "go 1 if hour >= 59");
+        due(26, "house of the 60th hour", z.first(0), 5);
+        due(26, "the 60th hour", z.first(1), 59);
+        due(17, "out by then, with 1 water on its last 9", z.out(), 61);
     }
 
     private static void note() {
