@@ -51,7 +51,9 @@ public final class ModelTest {
         for (int h = 0; h < houses; h++)
             s.append(";").append(gap()).append("house ").append(d(8) == 0 ? 0 : d(100)).append(" ").append(d(2) == 0 ? 0 : d(10))
                 .append(" ").append(d(21));
-        for (int i = d(9); i > 0 && houses > 0; i--) {
+        for (int h = 1; h <= houses; h++)
+            if (d(6) > 0) s.append(";road ").append(d(h)).append(" ").append(h).append(" ").append(1 + d(d(3) == 0 ? 9 : 3));
+        for (int i = d(5); i > 0 && houses > 0; i--) {
             int a = d(houses + 1), b = d(houses + 1);
             if (a != b) s.append(";road ").append(a).append(" ").append(b).append(" ").append(1 + d(d(2) == 0 ? 2 : 9));
         }
@@ -97,8 +99,9 @@ public final class ModelTest {
     }
     private void emptied() { same("end 0", it.end(0), model.end(0)); }
 
-    private int house() { return d(8) - 1; }
-    private int hours(int most) { return d(6) == 0 ? d(most + 4) - 2 : d(20); }
+    private int house() { return d(8) == 0 || model.houses() == 0 ? d(8) - 1 : d(model.houses()); }
+    private int hours(int most) { return d(8) == 0 ? d(most + 4) - 2 : 1 + d(d(4) == 0 ? most : Math.min(most, 20)); }
+    private int what(int least, int most) { return d(12) == 0 ? least - 1 + d(most - least + 3) : least + d(most - least + 1); }
 
     private void tellValley() {
         emptied();
@@ -137,29 +140,34 @@ public final class ModelTest {
     }
 
     private void ask() {
-        int a = house(), b = house(), n = hours(60), what = d(5) - 1;
-        switch (d(19)) {
-            case 0 -> { int w = d(7) - 1; same("house " + a + " " + w, it.house(a, w), model.house(a, w)); }
-            case 1 -> same("far " + a + " " + b, it.far(a, b), model.far(a, b));
-            case 2 -> { int m = hours(100); same("ahead " + a + " " + m + " " + what, it.ahead(a, m, what), model.ahead(a, m, what)); }
-            case 3 -> { int m = hours(100); same("left " + m, it.left(m), model.left(m)); }
+        int a = house(), b = house(), n = hours(60), w;
+        switch (d(20)) {
+            case 0 -> { w = what(0, 4); same("house " + a + " " + w, it.house(a, w), model.house(a, w)); }
+            case 1 -> { a += d(2); b += d(2); same("far " + a + " " + b, it.far(a, b), model.far(a, b)); }
+            case 2 -> { n = hours(100); w = what(0, 2); same("ahead " + a + " " + n + " " + w, it.ahead(a, n, w), model.ahead(a, n, w)); }
+            case 3 -> { n = hours(100); same("left " + n, it.left(n), model.left(n)); }
             case 4 -> same("out", it.out(), model.out());
             case 5 -> same("canBurn", it.canBurn(), model.canBurn());
-            case 6 -> { int w = d(9) - 2; same("order " + n + " " + w, it.order(n, w), model.order(n, w)); }
+            case 6 -> { w = what(-1, 5); same("order " + n + " " + w, it.order(n, w), model.order(n, w)); }
             case 7 -> same("heard " + a, it.heard(a), model.heard(a));
             case 8 -> same("water " + n, it.water(n), model.water(n));
-            case 9 -> same("clear " + n + " " + what, it.clear(n, what), model.clear(n, what));
-            case 10 -> same("silent " + n + " " + what, it.silent(n, what), model.silent(n, what));
-            case 11 -> { int m = d(12000) - 1000; same("pence " + m + " " + a, it.pence(m, a), model.pence(m, a)); }
-            case 12 -> { int m = d(24) - 1; same("rests " + a + " " + b + " " + m + " " + what, it.rests(a, b, m, what), model.rests(a, b, m, what)); }
-            case 13 -> same("first " + what, it.first(what), model.first(what));
-            case 14 -> same("ruled " + what, it.ruled(what), model.ruled(what));
-            case 15 -> same("look " + what, it.look(what), model.look(what));
-            case 16 -> {
-                int m = d(13) - 1, p = d(104) - 1;
-                same("sparks " + m + " " + n + " " + p + " " + what, it.sparks(m, n, p, what), model.sparks(m, n, p, what));
+            case 9 -> { w = what(0, 1); same("clear " + n + " " + w, it.clear(n, w), model.clear(n, w)); }
+            case 10 -> { w = what(0, 2); same("silent " + n + " " + w, it.silent(n, w), model.silent(n, w)); }
+            case 11 -> { w = d(10) == 0 ? d(12000) - 1000 : d(300); same("pence " + w + " " + a, it.pence(w, a), model.pence(w, a)); }
+            case 12, 13 -> {
+                n = hours(20);
+                w = what(0, 2);
+                same("rests " + a + " " + b + " " + n + " " + w, it.rests(a, b, n, w), model.rests(a, b, n, w));
             }
-            default -> { int w = d(18) - 1; same("count " + w, it.count(w), model.count(w)); }
+            case 14 -> { w = what(0, 1); same("first " + w, it.first(w), model.first(w)); }
+            case 15 -> { w = what(0, 1); same("ruled " + w, it.ruled(w), model.ruled(w)); }
+            case 16 -> { w = what(0, 1); same("look " + w, it.look(w), model.look(w)); }
+            case 17 -> {
+                int m = what(1, 10), p = d(104) - 1;
+                w = what(0, 1);
+                same("sparks " + m + " " + n + " " + p + " " + w, it.sparks(m, n, p, w), model.sparks(m, n, p, w));
+            }
+            default -> { w = what(0, 15); same("count " + w, it.count(w), model.count(w)); }
         }
     }
 

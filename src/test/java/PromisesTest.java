@@ -129,6 +129,11 @@ public final class PromisesTest {
         bad("valley 0 1;house 0 0 0;beside 0 0", 32, 1);
         bad("valley 0 1;house 0 0 0;beside 0 1", 32, 1);
         bad("valleys 0 1", 0, 0);
+        bad("valleyz 0 1", 0, 0);
+        bad("valley{0 1", 6, 0);
+        bad("valley 0:1", 8, 0);
+        bad(";".repeat(400), 0, 0);
+        bad("valley 0 1" + " ".repeat(389) + ";", 400, 0);
         bad("valley 0 1;", 11, 0);
         bad("valley 0 1 0", 11, 0);
         bad("valley 0 1;;", 11, 0);
@@ -192,7 +197,11 @@ public final class PromisesTest {
         badRule("go", 2, 0);
         badRule("go 1 if", 7, 0);
         badRule("gos 1", 0, 0);
+        badRule("goz 1", 0, 0);
+        badRule("go farz", 3, 0);
+        badRule("go`1", 2, 0);
         badRule("go x", 3, 0);
+        badRule("go 1 if " + "[".repeat(392), 18, 2);
         badRule("go 1;", 5, 0);
         badRule("go 1 if been = 1]", 16, 0);
         badRule("go 5 %", 6, 0);
@@ -586,6 +595,10 @@ public final class PromisesTest {
         due(20, "no fire", of("valley 9 9;house 99 0 4;road 0 1 1").heard(0), -2);
         due(20, "by a rule that does not listen", forced("valley 9 9;house 99 1 4;road 0 1 1", "go 1").heard(0), 0);
         due(20, "by a rule that does", forced("valley 9 9;house 99 1 4;road 0 1 1", "go says - 19").heard(0), 20);
+        // House 1 is lit in hour 8 and burns from 9 to 23: in the 20th hour from now on is soon enough.
+        String late = "valley 1 9;house 99 1 0;house 99 0 0;beside 0 1;road 0 2 1";
+        due(20, "in the 20th hour", forced(late, "go 1 if hour >= 19").heard(1), 0);
+        due(20, "in the 21st", forced(late, "go 1 if hour >= 20").heard(1), -2);
         SmokeWord y = of("valley 9 9;house 99 1 4;road 0 1 1");
         due(20, "alone", y.heard(0), 1);
         due(20, "says is as it was", y.house(0, 2), 4);
@@ -608,6 +621,9 @@ public final class PromisesTest {
         due(21, "by none", of("valley 9 9;house 30 3 1").water(60), -2);
         due(21, "no worth now is none then", of("valley 9 9;house 0 0 1;house 5 0 0").water(60), 0);
         due(21, "by a rule that knows", forced("valley 9 9;house 30 3 1;road 0 1 1", "go 1 if water = 5").water(60), 5);
+        due(21, "by 9 alone", forced("valley 0 9;house 30 3 1;road 0 1 1", "go 1 if water = 9").water(60), 9);
+        due(21, "the last 1 of worth counts now", of("valley 9 9;house 1 1 0").water(1), -2);
+        due(21, "the last 1 of worth counts then", of("valley 9 9;house 2 1 0").water(1), 0);
         due(21, "nothing changes", x.count(0), 0);
     }
 
@@ -661,6 +677,22 @@ public final class PromisesTest {
         due(23, "worth", z.silent(60, 2), 90);
     }
 
+    private static void silentOfSeveral() {
+        // Who says nothing is gone to, and only one can be in time: of the sets 1, 2 and 3 the least of the fewest.
+        SmokeWord x = forced("valley 9 9;house 90 1 5;house 90 1 5;road 0 1 1;road 0 2 1", "go 9 if says = 0 and smoke = 1");
+        due(23, "how many", x.silent(2, 0), 1);
+        due(23, "the set", x.silent(2, 1), 1);
+        due(23, "worth", x.silent(2, 2), 90 + 87);
+        // In five hours both can be saved, if both are silent.
+        due(23, "how many", x.silent(5, 0), 2);
+        due(23, "the set", x.silent(5, 1), 3);
+        due(23, "worth", x.silent(5, 2), 90 + 90 - 1 - 2);
+        // One that says nothing anyway belongs to no set.
+        x.say(0, 0);
+        due(23, "how many", x.silent(5, 0), 1);
+        due(23, "the set", x.silent(5, 1), 2);
+    }
+
     private static void pence() {
         SmokeWord x = of("valley 0 9;house 99 1 0;house 99 1 0;house 99 1 0");
         due(24, "none is lost", x.pence(100, 0), 0);
@@ -677,6 +709,10 @@ public final class PromisesTest {
         due(24, "house 3", x.pence(5, 3), -1);
         due(24, "house -1", x.pence(5, -1), -1);
         due(24, "without a valley", new SmokeWord().pence(5, 0), -1);
+        SmokeWord one = of("valley 0 9;house 99 0 0;house 99 1 0");
+        one.hour();
+        due(24, "all to the one that lost 1", one.pence(77, 1), 77);
+        due(24, "none to the other", one.pence(77, 0), 0);
         SmokeWord y = of("valley 0 9;house 99 1 0;house 99 4 0;house 99 0 0;house 99 2 0");
         y.hour();
         // 10 by 1, 4, 0, 2 of 7: 1 3/7, 5 5/7, 0, 2 6/7: the two left go to the last and the second.
@@ -706,6 +742,18 @@ public final class PromisesTest {
         due(25, "2 hours", x.rests(0, 1, 2, 0), restsByHand(x, 0, 1, 2));
         due(25, "20 hours", x.rests(1, 0, 20, 0), restsByHand(x, 1, 0, 20));
         due(25, "says is as it was", x.house(0, 2), 0);
+        // Whoever says more is saved, and each wins by saying a little more than the other: nowhere is rest.
+        SmokeWord z = of("valley 9 9;house 90 1 0;house 90 1 0;road 0 1 9;road 0 2 9");
+        due(25, "how many", z.rests(0, 1, 10, 0), 0);
+        due(25, "the first one", z.rests(0, 1, 10, 1), -2);
+        due(25, "the second one", z.rests(0, 1, 10, 2), -2);
+        // House 1 has too little to win by it, so it keeps still, and 0 says 5.
+        SmokeWord v = of("valley 9 9;house 90 1 0;house 1 1 0;road 0 1 2;road 0 2 2");
+        due(25, "how many", v.rests(0, 1, 10, 0), 1);
+        due(25, "the first one", v.rests(0, 1, 10, 1), 5);
+        due(25, "the second one", v.rests(0, 1, 10, 2), 0);
+        due(25, "the other way round", v.rests(1, 0, 10, 1), 0);
+        due(25, "the other way round", v.rests(1, 0, 10, 2), 5);
         // Nobody can come: both are best silent.
         SmokeWord y = of("valley 9 9;house 90 1 0;house 90 1 0");
         due(25, "how many", y.rests(0, 1, 20, 0), 1);
@@ -954,7 +1002,7 @@ public final class PromisesTest {
     public static void main(String[] args) {
         newObject(); feed(); end(); valley(); valleyInPlace(); rule(); force(); house(); far(); hour(); leap(); ruleInForce();
         light(); douse(); say(); send(); undo(); ahead(); left(); out(); canBurn(); order(); heard(); water(); clear();
-        silent(); pence(); rests(); first(); note(); ruled(); look(); seed(); sparks(); count(); image(); back();
+        silent(); silentOfSeveral(); pence(); rests(); first(); note(); ruled(); look(); seed(); sparks(); count(); image(); back();
         wildArguments();
         System.out.println(wrong == 0 ? "all " + asked + " answers are as due" : wrong + " of " + asked + " answers are not as due");
         if (wrong != 0) System.exit(1);
