@@ -198,6 +198,8 @@ public final class PromisesTest {
         badRule("go 1 if", 7, 0);
         badRule("gos 1", 0, 0);
         badRule("goz 1", 0, 0);
+        badRule("go mouse", 3, 0);
+        badRule("go hours", 3, 0);
         badRule("go farz", 3, 0);
         badRule("go`1", 2, 0);
         badRule("go x", 3, 0);
@@ -687,6 +689,8 @@ public final class PromisesTest {
         due(23, "how many", x.silent(5, 0), 2);
         due(23, "the set", x.silent(5, 1), 3);
         due(23, "worth", x.silent(5, 2), 90 + 90 - 1 - 2);
+        x.say(1, 1);
+        due(23, "the set", x.silent(5, 1), 3);
         // One that says nothing anyway belongs to no set.
         x.say(0, 0);
         due(23, "how many", x.silent(5, 0), 1);
@@ -857,6 +861,10 @@ public final class PromisesTest {
         due(28, "on its way: of which it set out", x.ruled(0), 4);
         x.note(2, 0);
         due(28, "never sent", x.ruled(1), 2);
+        SmokeWord y = of("valley 1 9;house 9 0 0;road 0 1 1", "go 1 if hour >= 59", "go 1 if hour >= 60");
+        y.note(60, 1);
+        due(28, "at the begin of hour 60", y.ruled(0), 1);
+        due(28, "at the begin of hour 60", y.ruled(1), 0);
     }
 
     private static void look() {
@@ -874,6 +882,12 @@ public final class PromisesTest {
         x.note(6, 1);
         due(29, "one is left: the first hour", x.look(0), 0);
         due(29, "how many", x.look(1), 1);
+        // Hour 60 is the last to look at.
+        String still = "valley 1 9;house 9 0 0;road 0 1 1";
+        due(29, "hour 60", of(still, "go 1 if hour >= 59").look(0), 60);
+        due(29, "how many", of(still, "go 1 if hour >= 59").look(1), 1);
+        due(29, "hour 61 is too late", of(still, "go 1 if hour >= 60").look(0), 0);
+        due(29, "how many", of(still, "go 1 if hour >= 60").look(1), 2);
         x.note(0, 2);
         due(29, "no rule is so", x.look(0), -2);
         due(29, "no rule is so", x.look(1), -2);
