@@ -1,42 +1,9 @@
 /** For each promise of the document: ordinary inputs, the edges that it names, and wrong inputs. */
-public final class PromisesTest {
+public final class PromisesTest extends Told {
     private static final String SMALL =
         "valley 3 4;house 40 2 5;house 30 0 3;house 20 3 9;road 0 1 2;road 1 2 1;road 0 3 3;beside 0 1";
-    private static int wrong = 0;
-    private static int asked = 0;
 
-    private static void due(int promise, String call, int got, int want) {
-        asked++;
-        if (got == want) return;
-        wrong++;
-        System.out.println("promise " + promise + ": " + call + " answered " + got + ", due is " + want);
-    }
-
-    private static void put(SmokeWord x, String text) {
-        x.end(0);
-        for (int i = 0; i < text.length(); i += 20) {
-            int[] v = new int[5];
-            for (int j = 0; j < 20 && i + j < text.length(); j++) v[j / 4] |= text.charAt(i + j) << 24 - 8 * (j % 4);
-            x.feed(v[0], v[1], v[2], v[3], v[4]);
-        }
-        x.end(text.length());
-    }
-    private static int valley(SmokeWord x, String text) { put(x, text); return x.valley(); }
-    private static int rule(SmokeWord x, String text) { put(x, text); return x.rule(); }
-    private static SmokeWord of(String valley, String... rules) {
-        SmokeWord x = new SmokeWord();
-        valley(x, valley);
-        for (String text : rules) rule(x, text);
-        return x;
-    }
-    private static SmokeWord forced(String valley, String text) {
-        SmokeWord x = of(valley, text);
-        x.force(0);
-        return x;
-    }
-    private static void hours(SmokeWord x, int n) { for (int i = 0; i < n; i++) x.hour(); }
-    /** The answer to a fault: its place and kind. */
-    private static int fault(int place, int kind) { return -2 - (1 + 8 * place + kind); }
+    private static void due(int promise, String call, int got, int want) { due("promise " + promise, call, got, want); }
 
     private static void newObject() {
         SmokeWord x = new SmokeWord();
@@ -1010,7 +977,6 @@ public final class PromisesTest {
                 for (int c : wild) { x.ahead(a, b, c); x.rests(a, b, c, 0); x.sparks(a, b, c, 0); x.rests(0, 1, a, b); }
             }
         }
-        asked++;
     }
 
     public static void main(String[] args) {
@@ -1018,7 +984,6 @@ public final class PromisesTest {
         light(); douse(); say(); send(); undo(); ahead(); left(); out(); canBurn(); order(); heard(); water(); clear();
         silent(); silentOfSeveral(); pence(); rests(); first(); note(); ruled(); look(); seed(); sparks(); count(); image(); back();
         wildArguments();
-        System.out.println(wrong == 0 ? "all " + asked + " answers are as due" : wrong + " of " + asked + " answers are not as due");
-        if (wrong != 0) System.exit(1);
+        finish();
     }
 }

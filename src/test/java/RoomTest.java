@@ -7,16 +7,6 @@ public final class RoomTest {
 
     private static long made() { return COUNTER.getThreadAllocatedBytes(Thread.currentThread().getId()); }
 
-    private static void put(SmokeWord x, String text) {
-        x.end(0);
-        for (int i = 0; i < text.length(); i += 20) {
-            int[] v = new int[5];
-            for (int j = 0; j < 20 && i + j < text.length(); j++) v[j / 4] |= text.charAt(i + j) << 24 - 8 * (j % 4);
-            x.feed(v[0], v[1], v[2], v[3], v[4]);
-        }
-        x.end(text.length());
-    }
-
     private static int askAll(SmokeWord x) {
         return x.order(60, -1) + x.silent(60, 0) + x.rests(0, 1, 20, 0) + x.heard(2) + x.look(0) + x.ruled(0) + x.water(60)
             + x.clear(60, 0) + x.sparks(10, 60, 50, 0) + x.out() + x.left(100) + x.ahead(0, 100, 0) + x.first(0)
@@ -29,11 +19,11 @@ public final class RoomTest {
         long before = made();
         SmokeWord x = new SmokeWord();
         long object = made() - before;
-        put(x, "valley 2 4;house 90 1 9;house 80 2 8;house 70 3 7;house 60 1 6;house 50 2 5;house 40 3 4;road 0 1 1;road 1 2 2;"
+        Told.put(x, "valley 2 4;house 90 1 9;house 80 2 8;house 70 3 7;house 60 1 6;house 50 2 5;house 40 3 4;road 0 1 1;road 1 2 2;"
             + "road 2 3 3;road 0 4 2;road 4 5 1;road 5 6 2;beside 0 1;beside 1 2;beside 4 5");
         x.valley();
         for (int i = 0; i < 6; i++) {
-            put(x, "go worth * says - far + near if smoke = 1 and not [ been > 3 or lost > 200 ]; go fires");
+            Told.put(x, "go worth * says - far + near if smoke = 1 and not [ been > 3 or lost > 200 ]; go fires");
             x.rule();
         }
         x.force(0);
