@@ -138,6 +138,16 @@ public final class BoundsOfAskingTest extends Told {
         due("one without HEAT is in no row", near.order(20, 2), -2);
         SmokeWord alike = of("valley 9 9;house 90 1 0;house 90 1 0;house 90 1 0;road 0 1 1;road 0 2 1;road 0 3 1");
         for (int w = 0; w < 3; w++) due("of several the first, place " + w, alike.order(20, w), w);
+        for (int w = 0; w < 3; w++) due("in 1 HOUR as much by 0, 1, 2 and 0, 2, 1, place " + w, alike.order(1, w), w);
+        due("in 1 HOUR, how much", alike.order(1, -1), 270 - 2);
+        sentence = "ORDER: as soon as it is not on its way, and where it is has no HEAT";
+        // To one by 2 HOURS, 1 lost; then to the other by 4, 1 to 5 lost.
+        SmokeWord afar = of("valley 9 9;house 90 1 0;house 90 1 0;road 0 1 2;road 0 2 2");
+        due("on its way it goes on", afar.order(10, -1), 180 - 1 - 15);
+        // By 0, 1 it would stay with house 0, whose HEAT of 3 the WATER keeps; by 1, 0 it keeps that at 5 from HOUR 2 on.
+        SmokeWord kept = of("valley 1 9;house 50 3 0;house 50 1 0;road 0 1 1;road 0 2 1");
+        due("where there is HEAT it stays", kept.order(10, 0), 1);
+        due("where there is HEAT it stays, how much", kept.order(10, -1), 50 + 50 - 3 - 4 - 8 * 4);
         sentence = "ORDER: is that where it is, it stays for this HOUR";
         SmokeWord there = of("valley 9 9;house 50 0 0;house 50 1 0;road 0 1 1;road 1 2 1");
         there.send(0);
@@ -218,6 +228,7 @@ public final class BoundsOfAskingTest extends Told {
         due("WORTH 2 now, HEAT 1", of("valley 0 9;house 2 1 0").water(1), 0);
         due("WORTH 2 now, HEAT 1", of("valley 0 9;house 2 1 0").water(2), -2);
         due("the last of six", of("valley 0 9" + ";house 9 0 0".repeat(5) + ";house 1 1 0").water(1), -2);
+        due("of six none burns", of("valley 0 9" + ";house 9 0 0".repeat(6)).water(60), 0);
         due("of 0 HOUSES", of("valley 0 9").water(60), 0);
         due("without a VALLEY", new SmokeWord().water(1), -1);
     }
@@ -247,6 +258,7 @@ public final class BoundsOfAskingTest extends Told {
         due("the last of six", of("valley 0 9" + ";house 9 0 0".repeat(5) + ";house 9 1 0").clear(1, 0), 5);
         sentence = "CLEAR: no WORTH, no HEAT; its WORTH is saved as it is";
         due("with its fire", of("valley 0 1;house 50 1 0;house 50 0 0;beside 0 1").clear(60, 1), 100);
+        due("its smoke calls nobody", of("valley 9 9;house 50 1 9;house 50 1 1;road 0 1 9;road 0 2 1").clear(5, 1), 100);
         due("what is without WORTH is not lit", of("valley 0 3;house 20 3 0;house 60 0 0;house 70 0 0;house 20 3 0;beside 0 1;beside 1 2;"
             + "beside 3 1").clear(60, 1), 130);
     }
@@ -271,6 +283,12 @@ public final class BoundsOfAskingTest extends Told {
         // House 1 is nearer to the pump by an HOUR: of the sets of one the best, not the least.
         SmokeWord nearer = forced("valley 9 9;house 90 1 5;house 90 1 5;road 0 1 2;road 0 2 1", "go 9 if says=0 and smoke=1");
         due("the best", nearer.silent(2, 1), 2);
+        // In 2 HOURS 5 can be saved by 0 and then 1 (3 and 2), or by 2 alone: the fewest, though not the least as bits.
+        SmokeWord fewest = forced("valley 9 9;house 50 1 5;house 50 1 5;house 50 2 5;road 0 1 1;road 1 2 1;road 0 3 1",
+            "go 9 if says=0 and smoke=1");
+        due("the fewest", fewest.silent(2, 0), 1);
+        due("the fewest, the set", fewest.silent(2, 1), 4);
+        due("the fewest, WORTH", fewest.silent(2, 2), 150 - 3 - 3);
         String head = "valley 9 9", roads = "";
         for (int n = 1; n <= 6; n++) {
             head += ";house 99 1 1";
@@ -288,6 +306,12 @@ public final class BoundsOfAskingTest extends Told {
         SmokeWord x = hours(of("valley 0 9;house 99 1 0"), 1);
         range("much", m -> x.pence(m, 0), 0, 9999, -1);
         for (int much : new int[] {0, 1, 9998, 9999}) due("all to one", x.pence(much, 0), much);
+        SmokeWord three = hours(of("valley 0 9;house 99 1 0;house 99 1 0;house 99 1 0"), 1);
+        for (int h = 0; h < 3; h++) {
+            due("-1 among three", three.pence(-1, h), -1);
+            due("0 among three", three.pence(0, h), 0);
+            due("10000 among three", three.pence(10000, h), -1);
+        }
         sentence = "PENCE of a HOUSE; NONE without these";
         range("house", h -> of("valley 0 9;house 9 0 0;house 9 0 0;house 9 0 0").pence(5, h), 0, 2, -1);
         due("of 0 HOUSES", of("valley 0 9").pence(5, 0), -1);
@@ -345,11 +369,42 @@ public final class BoundsOfAskingTest extends Told {
         SmokeWord even = forced(one, "go 1 if says=15");
         due("as much by both", even.rests(0, 1, 2, 0), 2);
         due("the first", even.rests(0, 1, 2, 1), 0);
+        // Each is saved 1 by 5, which costs 1, if the other says less; of two alike the first is gone to.
+        SmokeWord both = of("valley 9 9;house 90 1 0;house 90 1 0;road 0 1 1;road 0 2 1");
+        due("0 0, 0 5 and 5 0", both.rests(0, 1, 1, 0), 3);
+        String contest = "valley 4 5;house 60 2 7;house 50 1 12;house 40 3 9;road 0 1 2;road 1 2 1;road 0 3 1;road 2 3 3;beside 0 1";
+        for (int n : new int[] {1, 2, 4, 7, 12, 19, 20}) {
+            due("how many in " + n, of(contest).rests(0, 1, n, 0), restsByHand(of(contest), 0, 1, n));
+            due("how many in " + n, of(contest).rests(2, 1, n, 0), restsByHand(of(contest), 2, 1, n));
+            due("how many in " + n, of(contest).rests(2, 0, n, 0), restsByHand(of(contest), 2, 0, n));
+        }
+        SmokeWord shy = of("valley 9 9;house 90 1 0;house 1 1 0;road 0 1 2;road 0 2 2");
+        due("who has 1 to lose keeps still", shy.rests(0, 1, 10, 0), 1);
+        due("and the other says 5", shy.rests(0, 1, 10, 1), 5);
+        due("the other way round", shy.rests(1, 0, 10, 2), 5);
         sentence = "RESTS: the first (-2: there is none)";
         SmokeWord none = of("valley 9 9;house 90 1 0;house 90 1 0;road 0 1 9;road 0 2 9");
         due("how many", none.rests(0, 1, 10, 0), 0);
         due("the first one", none.rests(0, 1, 10, 1), -2);
         due("the second one", none.rests(0, 1, 10, 2), -2);
+    }
+
+    /** How many rests two houses have, found by saying and looking ahead. */
+    private static int restsByHand(SmokeWord x, int first, int second, int n) {
+        int[][] one = new int[5][5], other = new int[5][5];
+        for (int a = 0; a < 5; a++) for (int b = 0; b < 5; b++) {
+            x.say(first, 5 * a);
+            x.say(second, 5 * b);
+            one[a][b] = x.ahead(first, n, 1) - a;
+            other[a][b] = x.ahead(second, n, 1) - b;
+        }
+        int many = 0;
+        for (int a = 0; a < 5; a++) for (int b = 0; b < 5; b++) {
+            boolean rest = true;
+            for (int c = 0; c < 5; c++) if (one[c][b] > one[a][b] || other[a][c] > other[a][b]) rest = false;
+            if (rest) many++;
+        }
+        return many;
     }
 
     private static void first() {
@@ -400,6 +455,47 @@ public final class BoundsOfAskingTest extends Told {
         due("of 0 HOUSES", of("valley 0 9").note(0, 1), -2);
         due("without a VALLEY", new SmokeWord().note(0, 0), -2);
         due("all without a VALLEY", new SmokeWord().note(-1, 0), -2);
+        sentence = "all NOTES are so";
+        SmokeWord ten = of(TWO);
+        for (int i = 0; i < 10; i++) ten.note(0, i < 9 ? 0 : 2);
+        due("the 10th is not", ten.ruled(0), 0);
+        ten.note(-1, 0);
+        due("none is left", ten.ruled(0), 1);
+        for (int i = 0; i < 10; i++) ten.note(0, i > 0 ? 0 : 1);
+        due("the first is not", ten.ruled(0), 0);
+        ten.note(-1, 0);
+        for (int i = 0; i < 10; i++) ten.note(0, 0);
+        due("all ten are", ten.ruled(0), 1);
+        ten.image(0);
+        ten.note(-1, 0);
+        ten.note(0, 2);
+        due("another is not", ten.ruled(0), 0);
+        ten.image(1);
+        ten.back(0);
+        due("an IMAGE has its own", ten.ruled(0), 1);
+        ten.back(1);
+        due("an IMAGE has its own", ten.ruled(0), 0);
+        SmokeWord own = of(STILL, "go 1 if hour>=5");
+        own.force(0);
+        own.note(5, 1);
+        own.image(0);
+        own.note(-1, 0);
+        own.note(6, 1);
+        due("there at the begin of HOUR 6", own.ruled(0), 1);
+        own.image(1);
+        own.back(0);
+        due("not at the begin of HOUR 5", own.ruled(0), 0);
+        own.back(1);
+        due("there at the begin of HOUR 6", own.ruled(0), 1);
+        sentence = "from the begin on, all as the text told it";
+        SmokeWord begin = of("valley 1 9;house 9 1 0;house 9 0 0;road 0 1 1", "go 1 if been=0 and lost=0 and hour=0 and says=0 and worth=9;go 0");
+        begin.say(0, 9);
+        hours(begin, 3);
+        begin.light(1);
+        begin.note(1, 1);
+        due("by the RULE it is at house 0 at the begin of HOUR 1", begin.ruled(1), 0);
+        due("by none it is not", begin.ruled(0), 1);
+        due("WORTH of now", begin.count(10), 18 - begin.count(11));
         sentence = "at the begin of the n-th HOUR the brigade was at a PLACE";
         String[] rules = {"go 1 if hour>=58", "go 1 if hour>=59", "go 1 if hour>=60"};
         int[][] holds = {{0, 3, 3, 3}, {58, 3, 3, 3}, {59, 2, 3, 3}, {60, 2, 2, 3}};
@@ -465,6 +561,18 @@ public final class BoundsOfAskingTest extends Told {
         SmokeWord all = of(STILL, "go 0", "go 0", "go 0", "go 0", "go 0", "go 0");
         due("7 of 7", all.look(1), 7);
         due("7 of 7, the HOUR", all.look(0), 0);
+        // At the begin of HOUR 2 none and RULE 1 are at house 0, which none leaves for house 1: there in HOUR 6.
+        SmokeWord two = of(TWO, "go house", "go 5-house", "go 0");
+        due("of four, the HOUR", two.look(0), 2);
+        due("of four", two.look(1), 2);
+        two.note(2, 1);
+        due("of these two, the HOUR", two.look(0), 6);
+        due("of these two", two.look(1), 1);
+        two.note(6, 1);
+        due("of the one, the HOUR", two.look(0), 0);
+        due("of the one", two.look(1), 1);
+        two.note(-1, 0);
+        due("of four again, the HOUR", two.look(0), 2);
         sentence = "LOOK: -2: no RULE is so. NONE for others, or without a VALLEY";
         x.note(0, 1);
         due("no RULE is so", x.look(0), -2);
@@ -509,7 +617,10 @@ public final class BoundsOfAskingTest extends Told {
         sentence = "a DRAW mod 100: is it below p (0 to 100)";
         range("p", p -> held.sparks(1, 9, p, 0), 0, 100, -1);
         // Of these x the first DRAW mod 100 is 0, 1, 49, 50, 98, 99.
-        int[][] seeds = {{0, 0}, {70, 1}, {58, 49}, {27, 50}, {15, 98}, {194, 99}};
+        // Of the others x becomes, at the bounds of x / 65536: 50 * 65536 less 1, that, 32750 * 65536 less 1, that, 32700 * 65536
+        // less 1, that, 0 and 2147483647.
+        int[][] seeds = {{0, 0}, {70, 1}, {58, 49}, {27, 50}, {15, 98}, {194, 99}, {125287198, 49}, {1982965379, 50}, {10730270, 49},
+            {1868408451, 50}, {115981086, 99}, {1973659267, 0}, {2088216195, 0}, {230538014, 67}};
         for (int[] s : seeds) {
             due("DRAW " + s[1] + ", p " + s[1], sparked(s[0], 1, 1, s[1], 0), 180);
             due("DRAW " + s[1] + ", p " + (s[1] + 1), sparked(s[0], 1, 1, s[1] + 1, 0), 179);

@@ -80,6 +80,18 @@ public final class BoundsOfHoursTest extends Told {
         String[] sign = {"<", "<=", "=", ">=", ">"};
         boolean[][] holds = {{true, false, false}, {true, true, false}, {false, true, false}, {false, true, true}, {false, false, true}};
         for (int s = 0; s < 5; s++) for (int v = 0; v < 3; v++) goes("go 1 if " + (6 + v) + sign[s] + "7", holds[s][v]);
+        String[] held = {"1<2", "1<=2", "2<=2", "2=2", "2>=2", "3>=2", "3>2"};
+        String[] not = {"2<2", "3<2", "3<=2", "1=2", "1>=2", "2>2", "1>2"};
+        for (int i = 0; i < held.length; i++) {
+            goes("go 1 if not " + held[i], false);
+            goes("go 1 if not " + not[i], true);
+            for (int j = 0; j < held.length; j++) {
+                goes("go 1 if " + held[i] + " and " + held[j], true);
+                goes("go 1 if " + held[i] + " and " + not[j], false);
+                goes("go 1 if " + not[i] + " or " + held[j], true);
+                goes("go 1 if " + not[i] + " or " + not[j], false);
+            }
+        }
         goes("go 1 if 0-1<0", true);
         goes("go 1 if 0-1>0", false);
         sentence = "or of PARTS, and of FACTS, not of a FACT";
@@ -183,6 +195,10 @@ public final class BoundsOfHoursTest extends Told {
         due("it stays for the last HOUR of the fire", x.count(6), 1);
         hours(x, 1);
         due("it is sent on when that is out", x.count(6), 2);
+        SmokeWord sixth = forced("valley 0 9" + ";house 5 0 0".repeat(5) + ";house 9 1 0;road 0 6 1;road 6 1 1", "go 1+house if hour=0;go 9-house");
+        hours(sixth, 2);
+        due("at the sixth HOUSE, too", sixth.count(6), 6);
+        due("nor is it on its way", sixth.count(7), -1);
         sentence = "where it is, too: 0 HOURS";
         SmokeWord y = forced("valley 0 9;house 5 0 0;house 9 0 0;road 0 1 1;road 1 2 1", "go 9-far if far<2");
         hours(y, 1);
@@ -219,6 +235,8 @@ public final class BoundsOfHoursTest extends Told {
         due("one road of 8 against 2 of 4", of("valley 0 1;house 1 0 0;house 1 0 0;road 0 1 8;road 0 2 4;road 2 1 4").far(0, 1), 8);
         due("one road of 7 against 2 of 4", of("valley 0 1;house 1 0 0;house 1 0 0;road 0 1 7;road 0 2 4;road 2 1 4").far(0, 1), 7);
         due("send over all", of(row).send(5), 54);
+        due("over the pump", of("valley 0 1;house 1 0 0;house 1 0 0;road 0 1 3;road 2 0 4").far(1, 2), 7);
+        due("over the last", of("valley 0 1" + ";house 1 0 0".repeat(6) + ";road 0 6 3;road 6 1 4").far(1, 0), 7);
     }
 
     private static void poured() {
@@ -329,6 +347,18 @@ public final class BoundsOfHoursTest extends Told {
         due("the word hour", x.force(1) == -1 ? x.ahead(0, 5, 2) : -9, 1);
         due("undone, it is 998 again", x.undo() >= 0 && x.undo() >= 0 ? x.count(5) : -9, 998);
         due("and an HOUR can be", x.hour(), 0);
+    }
+
+    private static void calls() {
+        sentence = "An object is used for at most 512 calls";
+        SmokeWord x = new SmokeWord();
+        x.feed(0x76616c6c, 0x65792030, 0x20313b68, 0x6f757365, 0x20392030);
+        x.feed(0x20330000, 0, 0, 0, 0);
+        x.end(22);
+        due("the 4th", x.valley(), 1);
+        for (int i = 5; i <= 510; i++) due("the " + i + "th", x.hour(), 0);
+        due("the 511th", x.count(5), 506);
+        due("the 512th", x.say(0, 4), 3);
     }
 
     // ---- ACTS
@@ -460,7 +490,7 @@ public final class BoundsOfHoursTest extends Told {
 
     public static void main(String[] args) {
         division(); sixtyFour(); signs(); words();
-        sent(); onItsWay(); poured(); burnt(); leaps(); lastHour();
+        sent(); onItsWay(); poured(); burnt(); leaps(); lastHour(); calls();
         lit(); said(); sentByHand(); undone();
         finish();
     }

@@ -3,6 +3,7 @@ public final class BoundsOfTextsTest extends Told {
     private static final String HEAD = "valley 0 1";
     private static final String HOUSE = ";house 1 0 0";
     private static final String THREE = HEAD + HOUSE.repeat(3);
+    private static final String SIX_HOURS = "valley 1 1;house 9 1 1;road 0 1 6";
     private static String sentence;
 
     private static void told(String text, int houses) { due(sentence, "valley of \"" + text + "\"", valley(new SmokeWord(), text), houses); }
@@ -32,6 +33,21 @@ public final class BoundsOfTextsTest extends Told {
         put(x, padded("go 1", 400));
         due(sentence, "end(401)", x.end(401), -1);
         due(sentence, "the 400 are still a RULE", x.rule(), 0);
+        sentence = "a text of 400 signs, or with a sign that its end cuts off";
+        bad(";".repeat(400), 0, 0);
+        badRule("[".repeat(400), 0, 0);
+        badRule(padded("go 1 if 1", 399) + "<", 400, 0);
+        badRule(padded("go 1 if 1", 399) + ">", 400, 0);
+        badRule(padded("go 1 if 1", 398) + ">=", 400, 0);
+        put(x, "go 1 if 1<=2");
+        x.end(10);
+        due(sentence, "what is cut off is no part of it", x.rule(), fault(10, 0));
+        put(x, "valley 12 34");
+        x.end(8);
+        due(sentence, "what is cut off is no part of it", x.valley(), fault(8, 0));
+        put(x, "go 12345678");
+        x.end(8);
+        due(sentence, "what is cut off is no part of it", x.rule(), 1);
         sentence = "CLAUSE { ; CLAUSE }: an empty text is none";
         bad("", 0, 0);
         badRule("", 0, 0);
@@ -73,6 +89,7 @@ public final class BoundsOfTextsTest extends Told {
         bad("vALLEY 0 1", 0, 0);
         for (String word : new String[] {"house", "road", "beside"}) {
             bad(HEAD + ";" + word.substring(1) + " 0 0 0", 11, 0);
+            bad(HEAD + ";z" + word.substring(1) + " 0 0 0", 11, 0);
             bad(HEAD + ";" + word + "s 0 0 0", 11, 0);
         }
         String[] words = {"house", "says", "worth", "smoke", "far", "near", "fires", "lost", "been", "water", "hour"};
@@ -82,6 +99,7 @@ public final class BoundsOfTextsTest extends Told {
             badRule("go 1+" + word + "if 1=1", 5, 0);
             badRule("go " + word + "z", 3, 0);
             badRule("go a" + word, 3, 0);
+            badRule("go z" + word.substring(1), 3, 0);
             if (!word.equals("house")) badRule("go " + word.substring(0, word.length() - 1), 3, 0);
         }
         for (String word : new String[] {"go", "if", "or", "and", "not", "valley", "road", "beside", "heat", "leap"}) badRule("go " + word, 3, 0);
@@ -257,6 +275,42 @@ public final class BoundsOfTextsTest extends Told {
         due(sentence, "WORTH 0, HEAT 10 is a FAULT", valley(new SmokeWord(), HEAD + ";house 0 10 0"), fault(19, 1));
     }
 
+    private static void inPlace() {
+        sentence = "the VALLEY in place of the one there was (no NOTES, nothing to be UNDONE; the RULE IN FORCE and x stay)";
+        StringBuilder six = new StringBuilder("valley 7 7");
+        for (int h = 0; h < 6; h++) six.append(";house 90 3 9").append(";road ").append(h).append(" ").append(h + 1).append(" 2");
+        six.append(";beside 0 1;beside 1 2;beside 0 5");
+        for (int houses = 0; houses <= 2; houses++) {
+            SmokeWord x = forced(six.toString(), "go house+1");
+            x.seed(9);
+            x.note(2, 2);
+            hours(x, 1);
+            due(sentence, "on its way", x.count(8), 11);
+            hours(x, 12);
+            due(sentence, "there", x.count(6), 6);
+            x.send(0);
+            due(sentence, "another", valley(x, "valley 1 2" + ";house 5 0 1".repeat(houses)), houses);
+            int[] all = {1, 2, houses, 1, 0, 0, 0, -1, 0, 0, 5 * houses, 0, 0, 0, 9, 0};
+            for (int w = 0; w < 16; w++) due(sentence, "count(" + w + ")", x.count(w), all[w]);
+            int[] of = {5, 0, 1, 0, 0};
+            for (int h = 0; h <= 2; h++) for (int w = 0; w < 5; w++) due(sentence, "house " + h + " " + w, x.house(h, w), h < houses ? of[w] : -1);
+            for (int h = 1; h <= 2; h++) due(sentence, "far(0, " + h + ")", x.far(0, h), h <= houses ? -2 : -1);
+            due(sentence, "nothing can be UNDONE", x.undo(), -1);
+            due(sentence, "left(100)", x.left(100), 5 * houses);
+        }
+        SmokeWord been = of("valley 0 9;house 9 0 0;house 9 0 0;road 0 1 1;road 1 2 1");
+        been.send(0);
+        hours(been, 2);
+        been.send(1);
+        hours(been, 1);
+        due(sentence, "it was there", been.house(0, 4) * 10 + been.house(1, 4), 21);
+        valley(been, "valley 0 9;house 9 0 0;house 9 0 0");
+        due(sentence, "it was not there", been.house(0, 4) * 10 + been.house(1, 4), 0);
+        sentence = "It is HOUR 0; the brigade is at the pump";
+        SmokeWord y = of(SIX_HOURS);
+        for (int w = 5; w <= 8; w++) due(sentence, "count(" + w + ")", y.count(w), w == 7 ? -1 : 0);
+    }
+
     // ---- the RULES
 
     private static void ruleClauses() {
@@ -283,6 +337,23 @@ public final class BoundsOfTextsTest extends Told {
         for (int n = 0; n <= 5; n++) due(sentence, "RULE " + n, rule(x, "go " + n), n);
         due(sentence, "a seventh", rule(x, "go 6"), -1);
         due(sentence, "count(3)", x.count(3), 6);
+        sentence = "RULES: each as it was told, whatever was told ahead of it";
+        SmokeWord y = of("valley 0 9;house 1 0 0;road 0 1 1");
+        for (int n = 0; n < 4; n++) rule(y, "go 1" + "+1".repeat(59));
+        rule(y, "go 1;go 1;go 1;go 1;go 1;go 1;go 1;go 1;go 1;go 1;go 1;go 1");
+        rule(y, "go 1" + "+1".repeat(60));
+        due(sentence, "the sixth", rule(y, "go 1-far"), 5);
+        y.force(5);
+        due(sentence, "by the sixth", y.ahead(0, 1, 2), 0);
+        for (int n = 0; n < 5; n++) {
+            y.force(n);
+            due(sentence, "by RULE " + n, y.ahead(0, 1, 2), 1);
+        }
+        SmokeWord z = of("valley 0 9;house 1 0 0;road 0 1 1", "go 0 if 1=2;go 1 if 1=1;go 1", "go 1 if 1=2", "go 0-1 if 1=2;go 0");
+        for (int n = 0; n < 3; n++) {
+            z.force(n);
+            due(sentence, "by RULE " + n, z.ahead(0, 1, 2), n == 0 ? 1 : 0);
+        }
     }
 
     private static void grammar() {
@@ -437,7 +508,7 @@ public final class BoundsOfTextsTest extends Told {
 
     public static void main(String[] args) {
         bytes(); blanks(); wordsGoOn(); digits();
-        clauses(); numbers(); places(); besides(); houses();
+        clauses(); numbers(); places(); besides(); houses(); inPlace();
         ruleClauses(); grammar(); depth(); parts();
         faults(); least();
         finish();

@@ -193,7 +193,7 @@ public final class ModelTest {
     }
 
     public static void main(String[] args) {
-        int runs = args.length > 0 ? Integer.parseInt(args[0]) : 1500;
+        int runs = args.length > 0 ? Integer.parseInt(args[0]) : 4000;
         long from = args.length > 1 ? Long.parseLong(args[1]) : 0;
         int bad = 0;
         for (long seed = from; seed < from + runs && bad < 3; seed++) {
