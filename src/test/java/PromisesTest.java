@@ -693,9 +693,11 @@ public final class PromisesTest extends Told {
         due(24, "10 by 2", y.pence(10, 3), 3);
     }
 
+    private static final String ALIKE = "valley 9 9;house 90 1 0;house 90 1 0;road 0 1 1;road 0 2 1";
+
     private static void rests() {
         // Only one is come to in time, the one that says more (0 of two alike), and worth what it saves.
-        SmokeWord x = of("valley 9 9;house 90 1 0;house 90 1 0;road 0 1 1;road 0 2 1");
+        SmokeWord x = of(ALIKE);
         due(25, "unlike", x.rests(0, 0, 5, 0), -1);
         due(25, "house 2", x.rests(0, 2, 5, 0), -1);
         due(25, "house -1", x.rests(-1, 0, 5, 0), -1);
@@ -710,8 +712,8 @@ public final class PromisesTest extends Told {
         due(25, "how many", x.rests(0, 1, 1, 0), 3);
         due(25, "the first one", x.rests(0, 1, 1, 1), 0);
         due(25, "the second one", x.rests(0, 1, 1, 2), 0);
-        due(25, "2 hours", x.rests(0, 1, 2, 0), restsByHand(x, 0, 1, 2));
-        due(25, "20 hours", x.rests(1, 0, 20, 0), restsByHand(x, 1, 0, 20));
+        due(25, "2 hours", x.rests(0, 1, 2, 0), restsByHand(of(ALIKE), 0, 1, 2));
+        due(25, "20 hours", x.rests(1, 0, 20, 0), restsByHand(of(ALIKE), 1, 0, 20));
         due(25, "says is as it was", x.house(0, 2), 0);
         // Whoever says more is saved, and each wins by saying a little more than the other: nowhere is rest.
         SmokeWord z = of("valley 9 9;house 90 1 0;house 90 1 0;road 0 1 9;road 0 2 9");
@@ -731,27 +733,6 @@ public final class PromisesTest extends Told {
         due(25, "the first one", y.rests(0, 1, 20, 1), 0);
         due(25, "the second one", y.rests(0, 1, 20, 2), 0);
     }
-    /** How many rests there are, found by saying and asking by hand. */
-    private static int restsByHand(SmokeWord x, int one, int other, int n) {
-        int[][] first = new int[5][5], second = new int[5][5];
-        int was = x.house(one, 2), wasOther = x.house(other, 2);
-        for (int a = 0; a < 5; a++) for (int b = 0; b < 5; b++) {
-            x.say(one, 5 * a);
-            x.say(other, 5 * b);
-            first[a][b] = x.ahead(one, n, 1) - a;
-            second[a][b] = x.ahead(other, n, 1) - b;
-        }
-        x.say(one, was);
-        x.say(other, wasOther);
-        int many = 0;
-        for (int a = 0; a < 5; a++) for (int b = 0; b < 5; b++) {
-            boolean rest = true;
-            for (int c = 0; c < 5; c++) if (first[c][b] > first[a][b] || second[a][c] > second[a][b]) rest = false;
-            if (rest) many++;
-        }
-        return many;
-    }
-
     private static void first() {
         SmokeWord x = of(SMALL);
         due(26, "house", x.first(0), 2);

@@ -64,4 +64,22 @@ class Told {
 
     /** The answer to a fault: its place and kind. */
     static int fault(int place, int kind) { return -2 - (1 + 8 * place + kind); }
+
+    /** How many rests two houses have, found by saying and looking ahead. */
+    static int restsByHand(SmokeWord x, int first, int second, int n) {
+        int[][] one = new int[5][5], other = new int[5][5];
+        for (int a = 0; a < 5; a++) for (int b = 0; b < 5; b++) {
+            x.say(first, 5 * a);
+            x.say(second, 5 * b);
+            one[a][b] = x.ahead(first, n, 1) - a;
+            other[a][b] = x.ahead(second, n, 1) - b;
+        }
+        int many = 0;
+        for (int a = 0; a < 5; a++) for (int b = 0; b < 5; b++) {
+            boolean rest = true;
+            for (int c = 0; c < 5; c++) if (one[c][b] > one[a][b] || other[a][c] > other[a][b]) rest = false;
+            if (rest) many++;
+        }
+        return many;
+    }
 }
