@@ -844,10 +844,11 @@ public final class SmokeWord {
             codeLength = 0;
             parts = 0;
             clauses = 0;
-            for (int clause = 0; clause <= MOST_CLAUSES; clause++) {
-                if (!readClause(clause)) {
+            for (int clause = 0; clause < MOST_CLAUSES; clause++) {
+                if (!readGo(clause) || passIf() && !readTest(0)) {
                     return false;
                 }
+                starts[2 * clause + 2] = codeLength;
                 clauses = clause + 1;
                 if (tape.kind() == END) {
                     return true;
@@ -857,19 +858,16 @@ public final class SmokeWord {
                 }
                 tape.pass();
             }
-            return tape.refuse(FAULT_CLAUSE);
+            return tape.refuse(tape.kind() == GO ? FAULT_CLAUSE : FAULT_STANDS);
         }
 
         Rule compiled() {
             return new Rule(Arrays.copyOf(code, codeLength), Arrays.copyOf(starts, 2 * clauses + 1), clauses);
         }
 
-        private boolean readClause(int clause) {
+        private boolean readGo(int clause) {
             if (tape.kind() != GO) {
                 return tape.refuse(FAULT_STANDS);
-            }
-            if (clause >= MOST_CLAUSES) {
-                return tape.refuse(FAULT_CLAUSE);
             }
             tape.pass();
             starts[2 * clause] = codeLength;
@@ -877,13 +875,14 @@ public final class SmokeWord {
                 return false;
             }
             starts[2 * clause + 1] = codeLength;
-            if (tape.kind() == IF) {
-                tape.pass();
-                if (!readTest(0)) {
-                    return false;
-                }
+            return true;
+        }
+
+        private boolean passIf() {
+            if (tape.kind() != IF) {
+                return false;
             }
-            starts[2 * clause + 2] = codeLength;
+            tape.pass();
             return true;
         }
 
@@ -1178,6 +1177,9 @@ public final class SmokeWord {
         private final long[] stack = new long[STACK];
         private Rule rule;
         private int fires;
+        /** How many houses burn, and how many of these are beside the house that is weighed: words of a rule. */
+        private int burning;
+        private int near;
         int water;
         /** The house to which the brigade came in the last hour, or NONE. */
         int came = NONE;
@@ -1229,6 +1231,7 @@ public final class SmokeWord {
             int best = NONE;
             long most = 0;
             fires = scene.fires();
+            burning = Integer.bitCount(fires);
             for (int house = 0; house < valley.houses; house++) {
                 if (wayTo(house) == NO_WAY) {
                     continue;
@@ -1260,6 +1263,7 @@ public final class SmokeWord {
         }
 
         private long weigh(int house) {
+            near = Integer.bitCount(valley.beside[house] & fires);
             for (int clause = 0; clause < rule.clauses; clause++) {
                 int sum = rule.starts[2 * clause];
                 int test = rule.starts[2 * clause + 1];
@@ -1305,9 +1309,9 @@ public final class SmokeWord {
                 case OP_FAR:
                     return valley.ways[scene.at * MOST_PLACES + house + 1];
                 case OP_NEAR:
-                    return Integer.bitCount(valley.beside[house] & fires);
+                    return near;
                 case OP_FIRES:
-                    return Integer.bitCount(fires);
+                    return burning;
                 case OP_LOST:
                     return scene.lost;
                 case OP_BEEN:
