@@ -843,7 +843,6 @@ public final class SmokeWord {
             tape.scan();
             codeLength = 0;
             parts = 0;
-            clauses = 0;
             for (int clause = 0; clause < MOST_CLAUSES; clause++) {
                 if (!readGo(clause) || passIf() && !readTest(0)) {
                     return false;
